@@ -1,0 +1,60 @@
+/** Counts what the tests found, and makes boards from pictures. */
+final class Checks {
+    static final int BLACK = 1, WHITE = 2;
+
+    private final String name;
+    private int right;
+    private int wrong;
+
+    Checks(String name) {
+        this.name = name;
+    }
+
+    void due(String call, long got, long want) {
+        if (got == want) {
+            right++;
+        } else {
+            wrong++;
+            System.out.println(name + ": " + call + " answered " + got + ", due is " + want);
+        }
+    }
+
+    /** Prints what was found, and ends the program with 1 if an answer was wrong. */
+    void end() {
+        System.out.println(name + ": " + right + " answers as due, " + wrong + " not");
+        if (wrong != 0 || right == 0) {
+            System.exit(1);
+        }
+    }
+
+    /** A board from its lines: '.' free, 'X' black, 'O' white. */
+    EyeBoard picture(int law, int toMove, String... lines) {
+        EyeBoard x = new EyeBoard();
+        int w = lines[0].length();
+        due("board of a picture", x.board(w, lines.length, law), 0);
+        for (int line = 0; line < lines.length; line++) {
+            for (int column = 0; column < w; column++) {
+                int what = ".XO".indexOf(lines[line].charAt(column));
+                due("set of a picture", x.set(line * w + column, what, toMove), 1);
+            }
+        }
+        return x;
+    }
+
+    /** The whole board against a picture of it. */
+    void looksLike(String call, EyeBoard x, String... lines) {
+        StringBuilder seen = new StringBuilder();
+        StringBuilder want = new StringBuilder();
+        int w = lines[0].length();
+        for (int line = 0; line < lines.length; line++) {
+            want.append(lines[line]).append('/');
+            for (int column = 0; column < w; column++) {
+                int what = x.at(line * w + column);
+                seen.append(what < 0 || what > 2 ? '?' : ".XO".charAt(what));
+            }
+            seen.append('/');
+        }
+        boolean same = seen.toString().equals(want.toString());
+        due(call + " left " + seen + " for " + want, same ? 1 : 0, 1);
+    }
+}
