@@ -394,7 +394,7 @@ public final class EyeBoard {
         }
 
         private int moverThen(int i) {
-            return (i & 1) == 0 ? opener : other(opener);
+            return (i & 1) == 0 ? opener : BLACK + WHITE - opener;
         }
 
         long stonesOf(int colour) {
@@ -406,7 +406,7 @@ public final class EyeBoard {
         }
 
         long free() {
-            return grid.all & ~(stonesOf(BLACK) | stonesOf(WHITE));
+            return grid.all & ~(stonesThen(latest, BLACK) | stonesThen(latest, WHITE));
         }
 
         int colourAt(int k) {
