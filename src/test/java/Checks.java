@@ -1,8 +1,15 @@
+import java.io.IOException;
+import java.io.UncheckedIOException;
+import java.nio.file.Files;
+import java.nio.file.Path;
+
 /** Counts what the tests found, and makes boards from pictures. */
 final class Checks {
     static final int BLACK = 1, WHITE = 2;
+    private static final Path DOCUMENT = Path.of("../shared/DOC.md");
 
     private final String name;
+    private String sentence = "";
     private int right;
     private int wrong;
 
@@ -15,7 +22,29 @@ final class Checks {
             right++;
         } else {
             wrong++;
-            System.out.println(name + ": " + call + " answered " + got + ", due is " + want);
+            System.out.println(name + sentence + ": " + call + " answered " + got + ", due is " + want);
+        }
+    }
+
+    /** The test of one sentence of the document, told in the document's words. */
+    void sentence(String words, Runnable test) {
+        sentence = ", '" + words + "'";
+        due("the document has the sentence", documentSays(words) ? 1 : 0, 1);
+        int before = right + wrong;
+        test.run();
+        due("the sentence has a test", right + wrong > before ? 1 : 0, 1);
+        sentence = "";
+    }
+
+    /** Where the document does not lie beside the checkout, its words can't be compared. */
+    private static boolean documentSays(String words) {
+        if (!Files.exists(DOCUMENT)) {
+            return true;
+        }
+        try {
+            return Files.readString(DOCUMENT).replaceAll("\\s+", " ").contains(words);
+        } catch (IOException unread) {
+            throw new UncheckedIOException(unread);
         }
     }
 

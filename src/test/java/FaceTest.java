@@ -2,7 +2,6 @@ import java.lang.reflect.Constructor;
 import java.lang.reflect.Field;
 import java.lang.reflect.Method;
 import java.lang.reflect.Modifier;
-import java.util.Arrays;
 import java.util.Set;
 import java.util.TreeSet;
 
@@ -40,9 +39,14 @@ public final class FaceTest {
     private static void classItself() {
         int modifiers = EyeBoard.class.getModifiers();
         holds("public and final", Modifier.isPublic(modifiers) && Modifier.isFinal(modifiers));
-        Constructor<?>[] all = EyeBoard.class.getDeclaredConstructors();
-        holds("one constructor", all.length == 1);
-        holds("public, without parameters", Modifier.isPublic(all[0].getModifiers()) && all[0].getParameterCount() == 0);
+        int open = 0;
+        for (Constructor<?> made : EyeBoard.class.getDeclaredConstructors()) {
+            if (!Modifier.isPrivate(made.getModifiers())) {
+                open++;
+                holds("public, without parameters", Modifier.isPublic(made.getModifiers()) && made.getParameterCount() == 0);
+            }
+        }
+        CHECKS.due("constructors that are not private", open, 1);
     }
 
     private static String told(Method method) {
@@ -83,10 +87,16 @@ public final class FaceTest {
             int modifiers = inside.getModifiers();
             holds(inside.getName() + " is static and not open",
                 Modifier.isStatic(modifiers) && !Modifier.isPublic(modifiers) && !Modifier.isProtected(modifiers));
-            long shared = Arrays.stream(inside.getDeclaredMethods())
-                .filter(method -> METHODS.stream().anyMatch(told -> told.contains(" " + method.getName() + "(")))
-                .count();
-            holds(inside.getName() + " has no method named like one of the face", shared == 0);
+            noPrivateNamesakes(inside);
+        }
+        noPrivateNamesakes(EyeBoard.class);
+    }
+
+    private static void noPrivateNamesakes(Class<?> holder) {
+        for (Method method : holder.getDeclaredMethods()) {
+            boolean named = METHODS.stream().anyMatch(face -> face.contains(" " + method.getName() + "("));
+            holds(holder.getName() + ": " + method.getName() + " is no private one named like one of the face",
+                !named || !Modifier.isPrivate(method.getModifiers()));
         }
     }
 }
