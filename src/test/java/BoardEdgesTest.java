@@ -38,8 +38,8 @@ public final class BoardEdgesTest {
     private static void promisesOfWhatIsTold() {
         CHECKS.sentence("What a CROSSING is: 0, 1, 2. BAD.", BoardEdgesTest::atTheEnds);
         CHECKS.sentence("How many: 0 ACTS, 1 the one TO MOVE, 2 black stones on THE BOARD, 3 white ones, "
-            + "4 black ones that were TAKEN, 5 white ones, 6 passes one behind the other now, 7 W, 8 H, 9 THE LAW. BAD.",
-            BoardEdgesTest::countsOfZeroToNine);
+            + "4 black ones that were TAKEN, 5 white ones, 6 passes one behind the other now, 7 W, 8 H, "
+            + "9 THE LAW. BAD.", BoardEdgesTest::countsOfZeroToNine);
         CHECKS.sentence("The i-th ACT (from 0): its CROSSING; W times H: a pass.", BoardEdgesTest::firstAndLastAct);
         CHECKS.sentence("NONE: there is none such. ## Promise 20", BoardEdgesTest::noSuchAct);
         CHECKS.sentence("h = 47; then h = 31 h + v for each v: count(0) to count(9), CROSSINGS by numbers, ACTS.",
@@ -48,12 +48,6 @@ public final class BoardEdgesTest {
 
     private static void due(String call, long got, long want) {
         CHECKS.due(call, got, want);
-    }
-
-    private static void counts(String when, EyeBoard x, int... want) {
-        for (int what = 0; what < want.length; what++) {
-            due(when + ", count(" + what + ")", x.count(what), want[what]);
-        }
     }
 
     private static EyeBoard sized(int w, int h) {
@@ -206,7 +200,7 @@ public final class BoardEdgesTest {
 
     private static void newObject() {
         EyeBoard x = new EyeBoard();
-        counts("new", x, 0, 1, 0, 0, 0, 0, 0, 5, 5, 0);
+        CHECKS.counts("new", x, 0, 1, 0, 0, 0, 0, 0, 5, 5, 0);
         for (int k = 0; k < 25; k++) {
             due("new, at(" + k + ")", x.at(k), 0);
             due("new, why(" + k + ")", x.why(k), 0);
@@ -242,13 +236,13 @@ public final class BoardEdgesTest {
             }
             due("BAD first: board(1, 5, 0)", x.board(1, 5, 0), EyeBoard.BAD);
             due("board() behind " + acts + " acts", x.board(2, 7, 1), acts);
-            counts("then", x, 0, 1, 0, 0, 0, 0, 0, 2, 7, 1);
+            CHECKS.counts("then", x, 0, 1, 0, 0, 0, 0, 0, 2, 7, 1);
             due("board() once more", x.board(2, 7, 1), 0);
         }
         EyeBoard taken = CHECKS.picture(1, 1, "XO", "..");
         due("lay(3) takes", taken.lay(3), 1);
         due("board() of the same size and law", taken.board(2, 2, 1), 1);
-        counts("nothing taken", taken, 0, 1, 0, 0, 0, 0, 0, 2, 2, 1);
+        CHECKS.counts("nothing taken", taken, 0, 1, 0, 0, 0, 0, 0, 2, 2, 1);
         due("way 0 counts nothing taken", taken.points(1, 0), 0);
         due("undo() brings nothing back", taken.undo(), EyeBoard.NO);
         EyeBoard white = CHECKS.picture(1, 2, "..", "..");
@@ -273,7 +267,7 @@ public final class BoardEdgesTest {
         for (int k : new int[] {MIN, -64, -1, 25, 26, 49, 63, 64, 65, 128, MAX}) {
             EyeBoard x = new EyeBoard();
             due("set(" + k + ", 1, 2)", x.set(k, 1, 2), EyeBoard.BAD);
-            counts("then", x, 0, 1, 0, 0);
+            CHECKS.counts("then", x, 0, 1, 0, 0);
         }
         EyeBoard large = sized(7, 7);
         due("set(0, 1, 1) of 7 by 7", large.set(0, 1, 1), 1);
@@ -363,22 +357,22 @@ public final class BoardEdgesTest {
 
     private static void countsOfZeroToNine() {
         EyeBoard x = CHECKS.picture(2, 2, ".OX.", "....", "X...");
-        counts("no act", x, 0, 2, 2, 1, 0, 0, 0, 4, 3, 2);
+        CHECKS.counts("no act", x, 0, 2, 2, 1, 0, 0, 0, 4, 3, 2);
         int[] acts = {6, 12, 3, 0, 12, 5, 4, 12, 12};
         for (int k : acts) {
             due("act at " + k + " is allowed", (k == 12 ? x.pass() : x.lay(k)) >= 0 ? 1 : 0, 1);
         }
-        counts("behind nine acts", x, 9, 1, 2, 4, 2, 0, 2, 4, 3, 2);
+        CHECKS.counts("behind nine acts", x, 9, 1, 2, 4, 2, 0, 2, 4, 3, 2);
         EyeBoard y = CHECKS.picture(1, 1, "XO", "..");
         due("lay(3) by black takes", y.lay(3), 1);
-        counts("a white one taken", y, 1, 2, 2, 0, 0, 1, 0, 2, 2, 1);
+        CHECKS.counts("a white one taken", y, 1, 2, 2, 0, 0, 1, 0, 2, 2, 1);
         for (int what : new int[] {MIN, -1, 10, 11, MAX}) {
             due("count(" + what + ")", y.count(what), EyeBoard.BAD);
         }
         EyeBoard all = allButOne(0, 2);
-        counts("48 white ones", all, 0, 1, 0, 48, 0, 0, 0, 7, 7, 0);
+        CHECKS.counts("48 white ones", all, 0, 1, 0, 48, 0, 0, 0, 7, 7, 0);
         due("lay(0) takes 48", all.lay(0), 48);
-        counts("48 taken", all, 1, 2, 1, 0, 0, 48, 0, 7, 7, 0);
+        CHECKS.counts("48 taken", all, 1, 2, 1, 0, 0, 48, 0, 7, 7, 0);
     }
 
     private static void firstAndLastAct() {

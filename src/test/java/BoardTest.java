@@ -31,15 +31,9 @@ public final class BoardTest {
         CHECKS.due(call, got, want);
     }
 
-    private static void counts(String when, EyeBoard x, int... want) {
-        for (int what = 0; what < want.length; what++) {
-            due(when + ", count(" + what + ")", x.count(what), want[what]);
-        }
-    }
-
     private static void newObject() {
         EyeBoard x = new EyeBoard();
-        counts("new", x, 0, 1, 0, 0, 0, 0, 0, 5, 5, 0);
+        CHECKS.counts("new", x, 0, 1, 0, 0, 0, 0, 0, 5, 5, 0);
         CHECKS.looksLike("new", x, ".....", ".....", ".....", ".....", ".....");
         due("new, at(25)", x.at(25), EyeBoard.BAD);
         due("new, tries()", x.tries(), 0);
@@ -56,13 +50,13 @@ public final class BoardTest {
         due("pass()", x.pass(), 1);
         due("lay(2)", x.lay(2), 1);
         due("board(7, 2, 2)", x.board(7, 2, 2), 3);
-        counts("behind board()", x, 0, 1, 0, 0, 0, 0, 0, 7, 2, 2);
+        CHECKS.counts("behind board()", x, 0, 1, 0, 0, 0, 0, 0, 7, 2, 2);
         CHECKS.looksLike("board(7, 2, 2)", x, ".......", ".......");
         due("at(14) of 7 by 2", x.at(14), EyeBoard.BAD);
         due("act(0) behind board()", x.act(0), EyeBoard.NONE);
         due("undo() behind board()", x.undo(), EyeBoard.NO);
         due("board(2, 7, 1)", x.board(2, 7, 1), 0);
-        counts("2 by 7", x, 0, 1, 0, 0, 0, 0, 0, 2, 7, 1);
+        CHECKS.counts("2 by 7", x, 0, 1, 0, 0, 0, 0, 0, 2, 7, 1);
         due("board(7, 7, 0)", x.board(7, 7, 0), 0);
         due("at(48) of 7 by 7", x.at(48), 0);
         due("at(49) of 7 by 7", x.at(49), EyeBoard.BAD);
@@ -74,7 +68,7 @@ public final class BoardTest {
         due("board() behind an undo()", x.board(3, 2, 0), 1);
         due("set(0, 1, 2)", x.set(0, 1, 2), 1);
         due("board() behind set()", x.board(3, 2, 0), 0);
-        counts("board() behind set()", x, 0, 1, 0, 0, 0, 0, 0, 3, 2, 0);
+        CHECKS.counts("board() behind set()", x, 0, 1, 0, 0, 0, 0, 0, 3, 2, 0);
     }
 
     private static void badBoardChangesNothing() {
@@ -103,7 +97,7 @@ public final class BoardTest {
         due("to move", x.count(1), 1);
         due("set(24, 2, 1)", x.set(24, 2, 1), 1);
         due("set(0, 0, 2)", x.set(0, 0, 2), 1);
-        counts("behind set()", x, 0, 2, 0, 1, 0, 0, 0, 5, 5, 0);
+        CHECKS.counts("behind set()", x, 0, 2, 0, 1, 0, 0, 0, 5, 5, 0);
         int[][] bad = {{-1, 1, 1}, {25, 1, 1}, {0, -1, 1}, {0, 3, 1}, {0, 1, 0}, {0, 1, 3}, {MAX, 0, 1}, {0, MIN, 1},
             {0, 0, MAX}};
         long before = x.digest();
@@ -149,7 +143,7 @@ public final class BoardTest {
         EyeBoard x = CHECKS.picture(0, 1, "XOO.", ".XX.", "....");
         due("lay(3) takes a group", x.lay(3), 2);
         CHECKS.looksLike("lay(3)", x, "X..X", ".XX.", "....");
-        counts("lay(3)", x, 1, 2, 4, 0, 0, 2, 0, 4, 3, 0);
+        CHECKS.counts("lay(3)", x, 1, 2, 4, 0, 0, 2, 0, 4, 3, 0);
         due("lay(1) by white", x.lay(1), 0);
         due("lay(2) by black takes again", x.lay(2), 1);
         due("taken in all", x.count(5), 3);
@@ -161,7 +155,7 @@ public final class BoardTest {
         due("pass()", z.pass(), 1);
         due("lay(0) by white takes black ones", z.lay(0), 2);
         CHECKS.looksLike("lay(0)", z, "O.O", ".O.", "O..");
-        counts("lay(0)", z, 3, 1, 0, 4, 2, 0, 0, 3, 3, 0);
+        CHECKS.counts("lay(0)", z, 3, 1, 0, 4, 2, 0, 0, 3, 3, 0);
         EyeBoard v = CHECKS.picture(0, 1, "OO", ".O");
         due("lay(2) takes three of four", v.lay(2), 3);
         CHECKS.looksLike("lay(2)", v, "..", "X.");
@@ -308,7 +302,7 @@ public final class BoardTest {
         due("undo()", x.undo(), 0);
         due("digest()", x.digest(), begin);
         CHECKS.looksLike("undo()", x, "XOO.", ".XX.", "....");
-        counts("undo()", x, 0, 1, 3, 2, 0, 0, 0, 4, 3, 0);
+        CHECKS.counts("undo()", x, 0, 1, 3, 2, 0, 0, 0, 4, 3, 0);
         due("undo() once more", x.undo(), EyeBoard.NO);
         due("digest()", x.digest(), begin);
         due("lay(3) again", x.lay(3), 2);
@@ -350,7 +344,7 @@ public final class BoardTest {
         due("pass()", x.pass(), 1);
         due("lay(5)", x.lay(5), 0);
         due("lay(4)", x.lay(4), 1);
-        counts("behind seven acts", x, 7, 1, 2, 4, 2, 0, 0, 4, 3, 2);
+        CHECKS.counts("behind seven acts", x, 7, 1, 2, 4, 2, 0, 0, 4, 3, 2);
         for (int what : new int[] {-1, 10, MAX, MIN}) {
             due("count(" + what + ")", x.count(what), EyeBoard.BAD);
         }

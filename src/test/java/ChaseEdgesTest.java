@@ -50,38 +50,31 @@ public final class ChaseEdgesTest {
         CHECKS.due(call, got, want);
     }
 
-    private static void chaseIs(EyeBoard x, int k, int n, int told, int tries) {
-        long before = x.digest();
-        due("chase(" + k + ", " + n + ")", x.chase(k, n), told);
-        due("tries() of chase(" + k + ", " + n + ")", x.tries(), tries);
-        due("digest() behind chase(" + k + ", " + n + ")", x.digest(), before);
-    }
-
     private static void chaseOf(int k, int n, int told, int tries, String... lines) {
-        chaseIs(CHECKS.picture(0, 1, lines), k, n, told, tries);
+        CHECKS.chaseIs(CHECKS.picture(0, 1, lines), k, n, told, tries);
     }
 
     private static void chasingColourLaysFirst() {
         for (int toMove = 1; toMove <= 2; toMove++) {
-            chaseIs(CHECKS.picture(0, toMove, ".O", "OO"), 1, 1, 1, 1);
-            chaseIs(CHECKS.picture(0, toMove, "XX", "X."), 1, 1, 1, 1);
+            CHECKS.chaseIs(CHECKS.picture(0, toMove, ".O", "OO"), 1, 1, 1, 1);
+            CHECKS.chaseIs(CHECKS.picture(0, toMove, "XX", "X."), 1, 1, 1, 1);
             // It has two breaths, and it would have three if it laid first.
-            chaseIs(CHECKS.picture(0, toMove, "..", "..", ".O"), 5, 2, 1, 3);
+            CHECKS.chaseIs(CHECKS.picture(0, toMove, "..", "..", ".O"), 5, 2, 1, 3);
         }
     }
 
     private static void oneBreath() {
         EyeBoard x = CHECKS.picture(0, 1, "XO", "..");
         for (int n = 1; n <= 20; n++) {
-            chaseIs(x, 0, n, 1, 1);
-            chaseIs(x, 1, n, 1, 1);
+            CHECKS.chaseIs(x, 0, n, 1, 1);
+            CHECKS.chaseIs(x, 1, n, 1, 1);
         }
         EyeBoard all = new EyeBoard();
         due("board(7, 7, 0)", all.board(7, 7, 0), 0);
         for (int k = 1; k < 49; k++) {
             due("set(" + k + ", 1, 1)", all.set(k, 1, 1), 1);
         }
-        chaseIs(all, 48, 1, 1, 1);
+        CHECKS.chaseIs(all, 48, 1, 1, 1);
     }
 
     private static void twoBreaths() {
@@ -161,13 +154,13 @@ public final class ChaseEdgesTest {
             EyeBoard ko = CHECKS.picture(law, 1, KO);
             due("lay(6)", ko.lay(6), 1);
             due("why(5)", ko.why(5), 3);
-            chaseIs(ko, 6, 1, 1, 1);
+            CHECKS.chaseIs(ko, 6, 1, 1, 1);
             // The board at hand is the first one: black 3 would bring it back.
-            chaseIs(CHECKS.picture(law, 1, ".XX", "XO."), 2, 2, 1, 1);
-            // White 1, black 3, and white may lay neither at 1 nor at 5; white 3, black 5 takes, white may not take back.
-            chaseIs(CHECKS.picture(law, 1, "X.", "X.", "O."), 0, 3, 0, 4);
+            CHECKS.chaseIs(CHECKS.picture(law, 1, ".XX", "XO."), 2, 2, 1, 1);
+            // White 1, black 3, and white may lay neither at 1 nor at 5; white 3, black 5 takes, white may not back.
+            CHECKS.chaseIs(CHECKS.picture(law, 1, "X.", "X.", "O."), 0, 3, 0, 4);
             // An older board of the chase may come back, whatever the game's law is.
-            chaseIs(CHECKS.picture(law, 1, "XO.", ".XO", "X.X"), 4, 5, 0, 16);
+            CHECKS.chaseIs(CHECKS.picture(law, 1, "XO.", ".XO", "X.X"), 4, 5, 0, 16);
         }
     }
 
@@ -187,9 +180,9 @@ public final class ChaseEdgesTest {
         chaseOf(5, 20, EyeBoard.SPENT, 600, "O.X..", "X....", "...O.", ".....", ".....", "...O.", ".....");
         // The tries of one chase are not those of the next one.
         EyeBoard x = CHECKS.picture(0, 1, "O.X..", "X....", ".....", "....O", ".....", ".....", ".....");
-        chaseIs(x, 5, 20, 0, 600);
-        chaseIs(x, 5, 20, 0, 600);
-        chaseIs(x, 5, 1, 0, 0);
+        CHECKS.chaseIs(x, 5, 20, 0, 600);
+        CHECKS.chaseIs(x, 5, 20, 0, 600);
+        CHECKS.chaseIs(x, 5, 1, 0, 0);
     }
 
     private static void orderOfTries() {
@@ -218,13 +211,13 @@ public final class ChaseEdgesTest {
         // Any stone of the group will do.
         EyeBoard group = CHECKS.picture(0, 1, "XXX.", "OOO.", "....");
         for (int k = 0; k <= 2; k++) {
-            chaseIs(group, k, 1, 1, 1);
+            CHECKS.chaseIs(group, k, 1, 1, 1);
         }
     }
 
     private static void refused() {
         EyeBoard x = CHECKS.picture(0, 1, "XO", "..");
-        chaseIs(x, 0, 1, 1, 1);
+        CHECKS.chaseIs(x, 0, 1, 1, 1);
         for (int k : new int[] {MIN, -64, -1, 4, 25, 64, 65, MAX}) {
             due("chase(" + k + ", 1)", x.chase(k, 1), EyeBoard.BAD);
         }

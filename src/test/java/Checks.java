@@ -48,6 +48,41 @@ final class Checks {
         }
     }
 
+    /** What count() tells, from 0 on. */
+    void counts(String when, EyeBoard x, int... want) {
+        for (int what = 0; what < want.length; what++) {
+            due(when + ", count(" + what + ")", x.count(what), want[what]);
+        }
+    }
+
+    /** What group() tells, from 0 on. */
+    void groupIs(EyeBoard x, int k, int... want) {
+        for (int what = 0; what < want.length; what++) {
+            due("group(" + k + ", " + what + ")", x.group(k, what), want[what]);
+        }
+    }
+
+    /** What region() tells, from 0 on. */
+    void regionIs(EyeBoard x, int colour, int k, int... want) {
+        for (int what = 0; what < want.length; what++) {
+            due("region(" + colour + ", " + k + ", " + what + ")", x.region(colour, k, what), want[what]);
+        }
+    }
+
+    void chaseIs(EyeBoard x, int k, int n, int told, int tries) {
+        long before = x.digest();
+        due("chase(" + k + ", " + n + ")", x.chase(k, n), told);
+        due("tries() of chase(" + k + ", " + n + ")", x.tries(), tries);
+        due("digest() behind chase(" + k + ", " + n + ")", x.digest(), before);
+    }
+
+    void fightIs(EyeBoard x, int k, int n, int told, int tries) {
+        long before = x.digest();
+        due("fight(" + k + ", " + n + ")", x.fight(k, n), told);
+        due("tries() of fight(" + k + ", " + n + ")", x.tries(), tries);
+        due("digest() behind fight(" + k + ", " + n + ")", x.digest(), before);
+    }
+
     /** Prints what was found, and ends the program with 1 if an answer was wrong. */
     void end() {
         System.out.println(name + ": " + right + " answers as due, " + wrong + " not");

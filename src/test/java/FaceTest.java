@@ -43,7 +43,8 @@ public final class FaceTest {
         for (Constructor<?> made : EyeBoard.class.getDeclaredConstructors()) {
             if (!Modifier.isPrivate(made.getModifiers())) {
                 open++;
-                holds("public, without parameters", Modifier.isPublic(made.getModifiers()) && made.getParameterCount() == 0);
+                holds("public, without parameters",
+                    Modifier.isPublic(made.getModifiers()) && made.getParameterCount() == 0);
             }
         }
         CHECKS.due("constructors that are not private", open, 1);

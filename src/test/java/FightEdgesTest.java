@@ -44,22 +44,15 @@ public final class FightEdgesTest {
         CHECKS.due(call, got, want);
     }
 
-    private static void fightIs(EyeBoard x, int k, int n, int told, int tries) {
-        long before = x.digest();
-        due("fight(" + k + ", " + n + ")", x.fight(k, n), told);
-        due("tries() of fight(" + k + ", " + n + ")", x.tries(), tries);
-        due("digest() behind fight(" + k + ", " + n + ")", x.digest(), before);
-    }
-
     private static void whatMayBeDone() {
         for (int law = 0; law <= 2; law++) {
             // The row: white may not take back at 5; white 3, white 11 and a pass are left.
             EyeBoard x = CHECKS.picture(law, 1, KO);
             due("lay(6)", x.lay(6), 1);
-            fightIs(x, 6, 1, 0, 3);
+            CHECKS.fightIs(x, 6, 1, 0, 3);
             // The boards of the fight: white 4 takes 5, black may not take back at 5 and passes, white 1 takes.
             EyeBoard y = CHECKS.picture(law, 2, "X.", "XO", ".X");
-            fightIs(y, 2, 3, 1, 3);
+            CHECKS.fightIs(y, 2, 3, 1, 3);
             due("first()", y.first(), 4);
         }
         // Behind two passes law 0 has forgotten the board: white 3, then white 5 takes.
@@ -67,25 +60,25 @@ public final class FightEdgesTest {
         due("lay(6)", old.lay(6), 1);
         due("pass()", old.pass(), 1);
         due("pass()", old.pass(), 2);
-        fightIs(old, 6, 1, 1, 2);
+        CHECKS.fightIs(old, 6, 1, 1, 2);
         due("first()", old.first(), 5);
         // Nothing may be laid, but a pass may be done: white's, then black 3 takes.
-        fightIs(CHECKS.picture(0, 2, "OO", "O."), 0, 1, 0, 1);
-        fightIs(CHECKS.picture(0, 2, "OO", "O."), 0, 2, 1, 2);
+        CHECKS.fightIs(CHECKS.picture(0, 2, "OO", "O."), 0, 1, 0, 1);
+        CHECKS.fightIs(CHECKS.picture(0, 2, "OO", "O."), 0, 2, 1, 2);
     }
 
     /** Black 1 or 2 would lose his group, but he may pass, and white may lay nowhere. */
     private static void eachForItsOwnColour() {
-        fightIs(CHECKS.picture(0, 1, "X.", ".X"), 0, 2, 0, 6);
+        CHECKS.fightIs(CHECKS.picture(0, 1, "X.", ".X"), 0, 2, 0, 6);
         // Black 2, white 3; black 5, white 2, white 3; a pass, white 2, white 3.
-        fightIs(CHECKS.picture(0, 1, "XO.", ".O."), 0, 2, 1, 8);
+        CHECKS.fightIs(CHECKS.picture(0, 1, "XO.", ".O."), 0, 2, 1, 8);
     }
 
     private static void someOneForTheOther() {
         // White 2 does not take, white 3 does.
-        fightIs(CHECKS.picture(0, 2, "XO.", "..."), 0, 1, 1, 2);
+        CHECKS.fightIs(CHECKS.picture(0, 2, "XO.", "..."), 0, 1, 1, 2);
         // Black 4 and a pass alone would not do; black 6 and 8 neither: none of the four takes.
-        fightIs(CHECKS.picture(0, 1, "OXX", "O.X", ".X."), 0, 1, 0, 4);
+        CHECKS.fightIs(CHECKS.picture(0, 1, "OXX", "O.X", ".X."), 0, 1, 0, 4);
     }
 
     private static void theStoneIsGone() {
@@ -97,43 +90,43 @@ public final class FightEdgesTest {
         // Its whole group goes with it.
         EyeBoard group = CHECKS.picture(0, 2, "XX", "X.");
         for (int k = 0; k <= 2; k++) {
-            fightIs(group, k, 1, 1, 1);
+            CHECKS.fightIs(group, k, 1, 1, 1);
         }
     }
 
     /** Fights that are won in so many acts, and not in one less. */
     private static void oneActLess() {
         EyeBoard three = CHECKS.picture(0, 1, "OXX", "O.X", ".X.");
-        fightIs(three, 0, 2, 0, 8);
+        CHECKS.fightIs(three, 0, 2, 0, 8);
         // Black 4; white may only pass; black 6.
-        fightIs(three, 0, 3, 1, 3);
+        CHECKS.fightIs(three, 0, 3, 1, 3);
         due("first()", three.first(), 4);
         EyeBoard four = CHECKS.picture(0, 2, ".O", ".O");
         due("fight(1, 3)", four.fight(1, 3), 0);
-        fightIs(four, 1, 4, 1, 10);
+        CHECKS.fightIs(four, 1, 4, 1, 10);
         EyeBoard five = CHECKS.picture(0, 2, ".O.", "...", "XXX");
         due("fight(6, 4)", five.fight(6, 4), 0);
-        fightIs(five, 6, 5, 1, 136);
+        CHECKS.fightIs(five, 6, 5, 1, 136);
         due("first()", five.first(), 3);
         EyeBoard six = CHECKS.picture(1, 2, "O.X", "O..");
         due("fight(3, 5)", six.fight(3, 5), 0);
-        fightIs(six, 3, 6, 1, 30);
+        CHECKS.fightIs(six, 3, 6, 1, 30);
         EyeBoard seven = CHECKS.picture(2, 2, "..", ".X");
-        fightIs(seven, 3, 6, 0, 64);
+        CHECKS.fightIs(seven, 3, 6, 0, 64);
     }
 
     private static void inNone() {
         // One act of its own colour never takes it, and no second one is tried.
-        fightIs(CHECKS.picture(0, 1, "XO", ".."), 0, 1, 0, 1);
-        fightIs(CHECKS.picture(0, 2, "OO", "O."), 0, 1, 0, 1);
+        CHECKS.fightIs(CHECKS.picture(0, 1, "XO", ".."), 0, 1, 0, 1);
+        CHECKS.fightIs(CHECKS.picture(0, 2, "OO", "O."), 0, 1, 0, 1);
         // Each act of the other colour is tried, and nothing behind it.
-        fightIs(CHECKS.picture(0, 1, "..", ".O"), 3, 1, 0, 4);
+        CHECKS.fightIs(CHECKS.picture(0, 1, "..", ".O"), 3, 1, 0, 4);
     }
 
     private static void oneToSixActs() {
         EyeBoard x = CHECKS.picture(0, 2, "XO", "..");
         for (int n = 1; n <= 6; n++) {
-            fightIs(x, 0, n, 1, 1);
+            CHECKS.fightIs(x, 0, n, 1, 1);
         }
         for (int n : new int[] {MIN, -1, 0, 7, 8, 20, MAX}) {
             due("fight(0, " + n + ")", x.fight(0, n), EyeBoard.BAD);
@@ -142,7 +135,7 @@ public final class FightEdgesTest {
 
     private static void refused() {
         EyeBoard x = CHECKS.picture(0, 2, "XO", "..");
-        fightIs(x, 0, 1, 1, 1);
+        CHECKS.fightIs(x, 0, 1, 1, 1);
         due("first()", x.first(), 2);
         for (int k : new int[] {MIN, -64, -1, 4, 25, 64, 65, MAX}) {
             due("fight(" + k + ", 1)", x.fight(k, 1), EyeBoard.BAD);
@@ -159,19 +152,19 @@ public final class FightEdgesTest {
 
     /** Fights of 600 and of 601 tries; the latter are as many without the limit. */
     private static void sixHundredTries() {
-        fightIs(CHECKS.picture(2, 2, "..", "X.", "..", ".."), 2, 6, 0, 600);
-        fightIs(CHECKS.picture(1, 1, "..", ".O", "..", "X."), 6, 6, 0, 600);
+        CHECKS.fightIs(CHECKS.picture(2, 2, "..", "X.", "..", ".."), 2, 6, 0, 600);
+        CHECKS.fightIs(CHECKS.picture(1, 1, "..", ".O", "..", "X."), 6, 6, 0, 600);
         EyeBoard won = CHECKS.picture(0, 1, "...X", "...O", "XX.O");
-        fightIs(won, 11, 5, 1, 600);
+        CHECKS.fightIs(won, 11, 5, 1, 600);
         due("first() with the last try", won.first() != EyeBoard.NONE ? 1 : 0, 1);
-        fightIs(CHECKS.picture(1, 2, "....", "...X", "....", "O..."), 12, 5, EyeBoard.SPENT, 600);
+        CHECKS.fightIs(CHECKS.picture(1, 2, "....", "...X", "....", "O..."), 12, 5, EyeBoard.SPENT, 600);
         EyeBoard lost = CHECKS.picture(0, 1, "XO", "..", ".X", "X.", ".O", ".O");
-        fightIs(lost, 9, 6, EyeBoard.SPENT, 600);
+        CHECKS.fightIs(lost, 9, 6, EyeBoard.SPENT, 600);
         due("first() behind SPENT", lost.first(), EyeBoard.NONE);
-        fightIs(CHECKS.picture(0, 1, "X.", "X.", ".O", ".O", "X."), 8, 6, EyeBoard.SPENT, 600);
+        CHECKS.fightIs(CHECKS.picture(0, 1, "X.", "X.", ".O", ".O", "X."), 8, 6, EyeBoard.SPENT, 600);
         // The tries of one fight are not those of the next one.
-        fightIs(won, 11, 5, 1, 600);
-        fightIs(won, 11, 5, 1, 600);
+        CHECKS.fightIs(won, 11, 5, 1, 600);
+        CHECKS.fightIs(won, 11, 5, 1, 600);
     }
 
     private static void byNumbers() {
@@ -179,28 +172,28 @@ public final class FightEdgesTest {
         EyeBoard x = CHECKS.picture(0, 2, "XX", "..");
         due("fight(0, 1)", x.fight(0, 1), 0);
         EyeBoard both = CHECKS.picture(0, 2, "XO.OX", ".....");
-        fightIs(both, 0, 1, 1, 2);
+        CHECKS.fightIs(both, 0, 1, 1, 2);
         due("first()", both.first(), 5);
         // White 2, 5, 6, 7, 8 do not take 4, white 9 does.
-        fightIs(both, 4, 1, 1, 6);
+        CHECKS.fightIs(both, 4, 1, 1, 6);
         due("first(), the last crossing", both.first(), 9);
         EyeBoard least = CHECKS.picture(0, 2, ".X", "XX");
-        fightIs(least, 3, 1, 1, 1);
+        CHECKS.fightIs(least, 3, 1, 1, 1);
         due("first(), the first crossing", least.first(), 0);
         EyeBoard first = CHECKS.picture(0, 1, "O.", "X.");
-        fightIs(first, 0, 1, 1, 1);
+        CHECKS.fightIs(first, 0, 1, 1, 1);
         due("first()", first.first(), 1);
     }
 
     private static void stopsWhenDecided() {
         // White 2 takes at once: nothing behind it is tried, in however many acts.
         for (int n = 1; n <= 6; n++) {
-            fightIs(CHECKS.picture(0, 2, "XO", ".."), 0, n, 1, 1);
+            CHECKS.fightIs(CHECKS.picture(0, 2, "XO", ".."), 0, n, 1, 1);
         }
         // Black's first act in one, black's first and white's three in two.
         EyeBoard own = CHECKS.picture(0, 1, "X.", "..");
-        fightIs(own, 0, 1, 0, 1);
-        fightIs(own, 0, 2, 0, 1 + 3);
+        CHECKS.fightIs(own, 0, 1, 0, 1);
+        CHECKS.fightIs(own, 0, 2, 0, 1 + 3);
     }
 
     /** There is room for the acts of a fight behind the last act that there may be. */
@@ -209,7 +202,7 @@ public final class FightEdgesTest {
         for (int i = 1; i <= 120; i++) {
             due("pass()", x.pass(), i);
         }
-        fightIs(x, 3, 6, 1, 30);
+        CHECKS.fightIs(x, 3, 6, 1, 30);
         due("lay(1)", x.lay(1), EyeBoard.FULL);
         due("chase(3, 1)", x.chase(3, 1), 0);
         due("undo()", x.undo(), 119);
@@ -218,7 +211,7 @@ public final class FightEdgesTest {
 
     private static void triesOfTheLatest() {
         EyeBoard x = CHECKS.picture(0, 2, "XO.", "...");
-        fightIs(x, 0, 1, 1, 2);
+        CHECKS.fightIs(x, 0, 1, 1, 2);
         due("chase(0, 21), BAD", x.chase(0, 21), EyeBoard.BAD);
         due("chase(2, 1), NO", x.chase(2, 1), EyeBoard.NO);
         due("fight(0, 7), BAD", x.fight(0, 7), EyeBoard.BAD);
@@ -261,6 +254,8 @@ public final class FightEdgesTest {
         due("fight(2, 1), NO", x.fight(2, 1), EyeBoard.NO);
         due("fight(0, 0), BAD", x.fight(0, 0), EyeBoard.BAD);
         due("chase(0, 1)", x.chase(0, 1), 1);
+        due("lay(5)", x.lay(5), 1);
+        due("undo()", x.undo(), 0);
         due("first() behind other calls", x.first(), 2);
         // About a stone of the one to move, told 1: it is no such fight.
         EyeBoard own = CHECKS.picture(0, 2, "XO.", ".O.");
@@ -279,6 +274,9 @@ public final class FightEdgesTest {
             EyeBoard x = CHECKS.picture(law, 2, ".XXO.", ".X.XO");
             due("lay(7)", x.lay(7), 1);
             due("why(8)", x.why(8), 3);
+            CHECKS.fightIs(x, 7, 1, 0, 3);
+            due("fight(7, 2)", x.fight(7, 2), 0);
+            due("first() of none", x.first(), EyeBoard.NONE);
             int told = x.fight(7, 3);
             // By laws 1 and 2 the board may not come back at all.
             due("fight(7, 3) by law " + law, told, law == 0 ? 1 : 0);

@@ -3,7 +3,7 @@ import java.util.Map;
 import java.util.Random;
 import java.util.TreeMap;
 
-/** Random runs of calls, each answer against that of PlainModel. The seeds are fixed, so each run is always the same. */
+/** Random runs of calls, each answer against that of PlainModel. The seeds are fixed, so each run stays the same. */
 public final class ModelTest {
     private static final int MOST_CALLS = 512;
     private static final int RUNS = 500;

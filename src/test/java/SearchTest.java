@@ -1,4 +1,4 @@
-/** Promises 13 to 16: chases, fights, their tries, and the act that decided. The tries are counted by hand. */
+/** Promises 13 to 16: chases, fights, and their tries, which are counted by hand. */
 public final class SearchTest {
     private static final int MAX = Integer.MAX_VALUE, MIN = Integer.MIN_VALUE;
     private static final String[] KO = {".XO.", "XO.O", ".XO."};
@@ -20,9 +20,6 @@ public final class SearchTest {
         fightSpent();
         fightBehindTheLastAct();
         fightRefused();
-        triesOfTheLatest();
-        firstIsAPass();
-        firstOfTheLatest();
         CHECKS.end();
     }
 
@@ -30,57 +27,47 @@ public final class SearchTest {
         CHECKS.due(call, got, want);
     }
 
-    private static void chaseIs(EyeBoard x, int k, int n, int told, int tries) {
-        due("chase(" + k + ", " + n + ")", x.chase(k, n), told);
-        due("tries() of chase(" + k + ", " + n + ")", x.tries(), tries);
-    }
-
-    private static void fightIs(EyeBoard x, int k, int n, int told, int tries) {
-        due("fight(" + k + ", " + n + ")", x.fight(k, n), told);
-        due("tries() of fight(" + k + ", " + n + ")", x.tries(), tries);
-    }
-
     private static void chaseOfOneBreath() {
         for (int toMove = 1; toMove <= 2; toMove++) {
             EyeBoard x = CHECKS.picture(0, toMove, ".X.", "XO.", ".X.");
             long before = x.digest();
-            chaseIs(x, 4, 1, 1, 1);
-            chaseIs(x, 4, 20, 1, 1);
+            CHECKS.chaseIs(x, 4, 1, 1, 1);
+            CHECKS.chaseIs(x, 4, 20, 1, 1);
             due("digest() behind a chase", x.digest(), before);
         }
         EyeBoard corner = CHECKS.picture(0, 1, "OX", "..");
-        chaseIs(corner, 0, 1, 1, 1);
+        CHECKS.chaseIs(corner, 0, 1, 1, 1);
     }
 
     private static void chaseOfTwoBreaths() {
         EyeBoard x = CHECKS.picture(0, 1, "X..", "...", "...");
-        chaseIs(x, 0, 1, 0, 0);
+        CHECKS.chaseIs(x, 0, 1, 0, 0);
         // White 1, black 3; white 3, black 1: each time the answer has two breaths, and one stone is left.
-        chaseIs(x, 0, 2, 0, 4);
+        CHECKS.chaseIs(x, 0, 2, 0, 4);
         // White 1, black 3, white 4, black 6, white 7.
-        chaseIs(x, 0, 3, 1, 5);
-        chaseIs(x, 0, 20, 1, 5);
+        CHECKS.chaseIs(x, 0, 3, 1, 5);
+        CHECKS.chaseIs(x, 0, 20, 1, 5);
         EyeBoard edge = CHECKS.picture(0, 1, ".X.", "...", "...");
-        chaseIs(edge, 1, 20, 0, 0);
+        CHECKS.chaseIs(edge, 1, 20, 0, 0);
         EyeBoard near = CHECKS.picture(0, 1, "X.O.", ".OO.", "....");
         // White 1, black 4, white 8.
-        chaseIs(near, 0, 2, 1, 3);
+        CHECKS.chaseIs(near, 0, 2, 1, 3);
     }
 
     private static void chaseWithoutAnswer() {
         EyeBoard x = CHECKS.picture(0, 2, "X.O.", ".OO.", "O...");
-        chaseIs(x, 0, 1, 0, 0);
-        chaseIs(x, 0, 2, 1, 1);
+        CHECKS.chaseIs(x, 0, 1, 0, 0);
+        CHECKS.chaseIs(x, 0, 2, 1, 1);
     }
 
     /** Black's stone at 5: white 1 has one breath, 0, where black takes it. */
     private static void chaseAnsweredByTaking() {
         EyeBoard x = CHECKS.picture(0, 1, ".OX.", "OX.O", "..O.");
         // White 6: black 9, white 8; black 0 takes. White 9: black 6, white 3; black 0 takes.
-        chaseIs(x, 5, 2, 0, 8);
+        CHECKS.chaseIs(x, 5, 2, 0, 8);
         EyeBoard safe = CHECKS.picture(0, 1, "....", ".OX.", "OX.O", "..O.");
         // A line further down nothing can be taken: white 10, black 13, white 12.
-        chaseIs(safe, 9, 2, 1, 3);
+        CHECKS.chaseIs(safe, 9, 2, 1, 3);
     }
 
     /** The game's law refuses white at 5, the chase's does not: it knows no board ahead of the one at hand. */
@@ -89,7 +76,7 @@ public final class SearchTest {
             EyeBoard x = CHECKS.picture(law, 1, KO);
             due("lay(6)", x.lay(6), 1);
             due("why(5)", x.why(5), 3);
-            chaseIs(x, 6, 1, 1, 1);
+            CHECKS.chaseIs(x, 6, 1, 1, 1);
             due("why(5) still", x.why(5), 3);
         }
     }
@@ -113,15 +100,15 @@ public final class SearchTest {
     private static void chaseSpent() {
         EyeBoard x = CHECKS.picture(0, 1, ".....X", "......", "...O..", "......", "X.....", ".O....", ".X....");
         long before = x.digest();
-        chaseIs(x, 37, 20, EyeBoard.SPENT, 600);
+        CHECKS.chaseIs(x, 37, 20, EyeBoard.SPENT, 600);
         due("digest() behind SPENT", x.digest(), before);
         due("first() behind a chase", x.first(), EyeBoard.NONE);
-        chaseIs(x, 37, 1, 0, 0);
+        CHECKS.chaseIs(x, 37, 1, 0, 0);
     }
 
     private static void chaseRefused() {
         EyeBoard x = CHECKS.picture(0, 1, "OX", "..");
-        chaseIs(x, 0, 1, 1, 1);
+        CHECKS.chaseIs(x, 0, 1, 1, 1);
         int[][] bad = {{-1, 1}, {4, 1}, {0, 0}, {0, 21}, {0, -1}, {MAX, 1}, {0, MAX}, {MIN, MIN}, {2, 0}, {2, 21}};
         for (int[] b : bad) {
             due("chase(" + b[0] + ", " + b[1] + ")", x.chase(b[0], b[1]), EyeBoard.BAD);
@@ -134,10 +121,10 @@ public final class SearchTest {
     private static void fightInOneAct() {
         EyeBoard x = CHECKS.picture(0, 2, "XO.", "...");
         // White 2 does nothing; white 3 takes.
-        fightIs(x, 0, 1, 1, 2);
+        CHECKS.fightIs(x, 0, 1, 1, 2);
         due("first()", x.first(), 3);
         // White's own stone: his first act leaves it there.
-        fightIs(x, 1, 1, 0, 1);
+        CHECKS.fightIs(x, 1, 1, 0, 1);
         due("first() stays", x.first(), 3);
         due("count(0) behind fights", x.count(0), 0);
     }
@@ -147,19 +134,19 @@ public final class SearchTest {
         due("fight(12, 1)", x.fight(12, 1), 1);
         due("first()", x.first(), 17);
         // White 0 to 6, 8 to 10, 14 to 16: behind each of these 13 black's first answer decides. White 17 takes.
-        fightIs(x, 12, 2, 1, 2 * 13 + 1);
+        CHECKS.fightIs(x, 12, 2, 1, 2 * 13 + 1);
         EyeBoard y = CHECKS.picture(0, 1, "XO.", ".O.");
         // Black 2, black 5, a pass: none takes.
-        fightIs(y, 1, 1, 0, 3);
+        CHECKS.fightIs(y, 1, 1, 0, 3);
         due("first()", y.first(), EyeBoard.NONE);
     }
 
     /** Whatever black does, white takes at 3. */
     private static void fightOfTheOwnColour() {
         EyeBoard x = CHECKS.picture(0, 1, "XO.", ".O.");
-        fightIs(x, 0, 1, 0, 1);
+        CHECKS.fightIs(x, 0, 1, 0, 1);
         // Black 2, white 3; black 5, white 2, white 3; a pass, white 2, white 3.
-        fightIs(x, 0, 2, 1, 8);
+        CHECKS.fightIs(x, 0, 2, 1, 8);
         due("first() is of the other colour's stones alone", x.first(), EyeBoard.NONE);
     }
 
@@ -168,7 +155,7 @@ public final class SearchTest {
             EyeBoard x = CHECKS.picture(law, 1, KO);
             due("lay(6)", x.lay(6), 1);
             // White 3, white 11, a pass: 0 and 8 would have no breath, 5 is refused by the law.
-            fightIs(x, 6, 1, 0, 3);
+            CHECKS.fightIs(x, 6, 1, 0, 3);
             due("undo()", x.undo(), 0);
             due("fight(5, 1)", x.fight(5, 1), 1);
             due("first()", x.first(), 6);
@@ -178,11 +165,11 @@ public final class SearchTest {
     private static void fightSpent() {
         EyeBoard x = CHECKS.picture(0, 1, ".....", ".....", "..O..", ".....", ".....");
         long before = x.digest();
-        fightIs(x, 12, 6, EyeBoard.SPENT, 600);
+        CHECKS.fightIs(x, 12, 6, EyeBoard.SPENT, 600);
         due("digest() behind SPENT", x.digest(), before);
         due("first() behind SPENT", x.first(), EyeBoard.NONE);
         // 24 stones and a pass in each of two acts: black's each, white's first alone.
-        fightIs(x, 12, 2, 0, 50);
+        CHECKS.fightIs(x, 12, 2, 0, 50);
     }
 
     private static void fightBehindTheLastAct() {
@@ -190,15 +177,15 @@ public final class SearchTest {
         for (int i = 1; i <= 120; i++) {
             due("pass()", x.pass(), i);
         }
-        fightIs(x, 0, 2, 1, 8);
+        CHECKS.fightIs(x, 0, 2, 1, 8);
         due("undo()", x.undo(), 119);
-        fightIs(x, 0, 1, 1, 2);
+        CHECKS.fightIs(x, 0, 1, 1, 2);
         due("first()", x.first(), 3);
     }
 
     private static void fightRefused() {
         EyeBoard x = CHECKS.picture(0, 2, "XO.", "...");
-        fightIs(x, 0, 1, 1, 2);
+        CHECKS.fightIs(x, 0, 1, 1, 2);
         int[][] bad = {{-1, 1}, {6, 1}, {0, 0}, {0, 7}, {0, -1}, {MAX, 1}, {0, MAX}, {MIN, MIN}, {2, 0}, {2, 7}};
         for (int[] b : bad) {
             due("fight(" + b[0] + ", " + b[1] + ")", x.fight(b[0], b[1]), EyeBoard.BAD);
@@ -207,53 +194,5 @@ public final class SearchTest {
         due("fight(2, 1), free", x.fight(2, 1), EyeBoard.NO);
         due("tries() stays", x.tries(), 2);
         due("first() stays", x.first(), 3);
-    }
-
-    private static void triesOfTheLatest() {
-        EyeBoard x = CHECKS.picture(0, 2, "XO.", "...");
-        due("tries() before any", x.tries(), 0);
-        fightIs(x, 0, 1, 1, 2);
-        chaseIs(x, 0, 1, 1, 1);
-        chaseIs(x, 1, 1, 0, 0);
-        fightIs(x, 0, 1, 1, 2);
-        due("lay(5)", x.lay(5), 0);
-        due("tries() behind a stone", x.tries(), 2);
-        due("board(2, 2, 0)", x.board(2, 2, 0), 1);
-        due("tries() behind board()", x.tries(), 2);
-    }
-
-    /**
-     * White has just taken at 8. Black can't take 7 back at once; at 0 and at 5 he would lose his own group, 4 has no
-     * breath for him; but if he passes, white can do nothing that saves 7.
-     */
-    private static void firstIsAPass() {
-        EyeBoard x = CHECKS.picture(0, 2, ".XXO.", ".X.XO");
-        due("lay(7)", x.lay(7), 1);
-        due("why(8)", x.why(8), 3);
-        fightIs(x, 7, 1, 0, 3);
-        due("fight(7, 2)", x.fight(7, 2), 0);
-        due("first() of none", x.first(), EyeBoard.NONE);
-        due("fight(7, 3)", x.fight(7, 3), 1);
-        due("first(), a pass", x.first(), 10);
-        due("why(8) still", x.why(8), 3);
-    }
-
-    private static void firstOfTheLatest() {
-        EyeBoard x = CHECKS.picture(0, 2, "XO.XO", "...O.", ".....", ".....", ".....");
-        due("fight(0, 1)", x.fight(0, 1), 1);
-        due("first()", x.first(), 5);
-        due("fight(3, 1)", x.fight(3, 1), 1);
-        due("first()", x.first(), 2);
-        due("fight(1, 1)", x.fight(1, 1), 0);
-        due("first() behind a 0", x.first(), 2);
-        due("chase(0, 1)", x.chase(0, 1), 1);
-        due("first() behind a chase", x.first(), 2);
-        due("fight(1, 6)", x.fight(1, 6), EyeBoard.SPENT);
-        due("first() behind SPENT", x.first(), 2);
-        due("lay(5)", x.lay(5), 1);
-        due("undo()", x.undo(), 0);
-        due("first() behind acts", x.first(), 2);
-        due("board(2, 2, 0)", x.board(2, 2, 0), 0);
-        due("first() behind board()", x.first(), 2);
     }
 }

@@ -61,18 +61,6 @@ public final class ShapeEdgesTest {
         CHECKS.due(call, got, want);
     }
 
-    private static void groupIs(EyeBoard x, int k, int... want) {
-        for (int what = 0; what < want.length; what++) {
-            due("group(" + k + ", " + what + ")", x.group(k, what), want[what]);
-        }
-    }
-
-    private static void regionIs(EyeBoard x, int colour, int k, int... want) {
-        for (int what = 0; what < want.length; what++) {
-            due("region(" + colour + ", " + k + ", " + what + ")", x.region(colour, k, what), want[what]);
-        }
-    }
-
     private static void pointsAre(EyeBoard x, int blackZero, int blackOne, int whiteZero, int whiteOne) {
         due("points(1, 0)", x.points(1, 0), blackZero);
         due("points(1, 1)", x.points(1, 1), blackOne);
@@ -99,94 +87,101 @@ public final class ShapeEdgesTest {
         for (int w = 2; w <= 7; w++) {
             EyeBoard x = free(w, 9 - w);
             for (int colour = 1; colour <= 2; colour++) {
-                regionIs(x, colour, 0, w * (9 - w), w * (9 - w), 0, 0, 0);
-                regionIs(x, colour, w * (9 - w) - 1, w * (9 - w), w * (9 - w), 0, 0, 0);
+                CHECKS.regionIs(x, colour, 0, w * (9 - w), w * (9 - w), 0, 0, 0);
+                CHECKS.regionIs(x, colour, w * (9 - w) - 1, w * (9 - w), w * (9 - w), 0, 0, 0);
             }
         }
         EyeBoard full = allButFirst(1);
-        regionIs(full, 1, 0, 1, 1, 1, 1, 0);
-        regionIs(full, 2, 48, 49, 1, 0, 0, 0);
+        CHECKS.regionIs(full, 1, 0, 1, 1, 1, 1, 0);
+        CHECKS.regionIs(full, 2, 48, 49, 1, 0, 0, 0);
         // It does not hang together across a corner, nor from one line's end to the next one's beginning.
         EyeBoard corners = CHECKS.picture(0, 1, "X.X", ".X.", "X.X");
         for (int k = 1; k < 9; k += 2) {
-            regionIs(corners, 1, k, 1, 1, 3, 3, k);
+            CHECKS.regionIs(corners, 1, k, 1, 1, 3, 3, k);
         }
         EyeBoard ends = CHECKS.picture(0, 1, "XX.", ".XX");
-        regionIs(ends, 1, 2, 1, 1, 1, 1, 2);
-        regionIs(ends, 1, 3, 1, 1, 1, 1, 3);
+        CHECKS.regionIs(ends, 1, 2, 1, 1, 1, 1, 2);
+        CHECKS.regionIs(ends, 1, 3, 1, 1, 1, 1, 3);
         // The other colour's stones are of it.
         EyeBoard held = CHECKS.picture(0, 1, ".OXO.", "OXXXO", "XX.XX");
-        regionIs(held, 1, 0, 3, 1, 1, 0, 0);
-        regionIs(held, 1, 12, 1, 1, 1, 1, 12);
-        regionIs(held, 1, 5, 3, 1, 1, 0, 0);
-        regionIs(held, 1, 9, 3, 1, 1, 0, 3);
+        CHECKS.regionIs(held, 1, 0, 3, 1, 1, 0, 0);
+        CHECKS.regionIs(held, 1, 12, 1, 1, 1, 1, 12);
+        CHECKS.regionIs(held, 1, 5, 3, 1, 1, 0, 0);
+        CHECKS.regionIs(held, 1, 9, 3, 1, 1, 0, 3);
     }
 
     private static void vitalWhereItTouches() {
         // The corner regions touch their own group alone.
         EyeBoard x = CHECKS.picture(0, 1, ".X...X.", "XX...XX");
-        groupIs(x, 1, 3, 3, 1, 1, 0);
-        groupIs(x, 5, 3, 3, 5, 1, 0);
-        regionIs(x, 1, 0, 1, 1, 1, 1, 0);
-        regionIs(x, 1, 3, 6, 6, 2, 0, 2);
+        CHECKS.groupIs(x, 1, 3, 3, 1, 1, 0);
+        CHECKS.groupIs(x, 5, 3, 3, 5, 1, 0);
+        CHECKS.regionIs(x, 1, 0, 1, 1, 1, 1, 0);
+        CHECKS.regionIs(x, 1, 3, 6, 6, 2, 0, 2);
         // White's stones lie between the free crossing and black, so it touches, but not with what is free.
         EyeBoard behind = CHECKS.picture(0, 1, ".OX.", "OOX.", "XXX.", "....");
-        regionIs(behind, 1, 0, 4, 1, 1, 0, 0);
-        groupIs(behind, 8, 5, 6, 2, 0, 0);
+        CHECKS.regionIs(behind, 1, 0, 4, 1, 1, 0, 0);
+        CHECKS.groupIs(behind, 8, 5, 6, 2, 0, 0);
     }
 
     private static void vitalWithEachFree() {
         // Of two free crossings both, then of three but two are breaths.
         EyeBoard both = CHECKS.picture(0, 1, "..X", "XXX", "...");
-        regionIs(both, 1, 0, 2, 2, 1, 1, 0);
-        regionIs(both, 1, 6, 3, 3, 1, 1, 6);
+        CHECKS.regionIs(both, 1, 0, 2, 2, 1, 1, 0);
+        CHECKS.regionIs(both, 1, 6, 3, 3, 1, 1, 6);
         EyeBoard two = CHECKS.picture(0, 1, ".X..", "..X.", "XXX.");
-        regionIs(two, 1, 0, 3, 3, 2, 0, 0);
+        CHECKS.regionIs(two, 1, 0, 3, 3, 2, 0, 0);
         EyeBoard far = CHECKS.picture(0, 1, "XXX", "...", "...");
-        regionIs(far, 1, 3, 6, 6, 1, 0, 3);
-        groupIs(far, 0, 3, 3, 0, 0, 0);
+        CHECKS.regionIs(far, 1, 3, 6, 6, 1, 0, 3);
+        CHECKS.groupIs(far, 0, 3, 3, 0, 0, 0);
         // Its white stones need not touch the group: crossing 12 does not.
         EyeBoard held = CHECKS.picture(0, 1, "XXXXX", "X.O.X", "XOOOX", "X.O.X", "XXXXX");
-        regionIs(held, 1, 12, 9, 4, 1, 1, 6);
-        groupIs(held, 0, 16, 4, 0, 1, 0);
+        CHECKS.regionIs(held, 1, 12, 9, 4, 1, 1, 6);
+        CHECKS.groupIs(held, 0, 16, 4, 0, 1, 0);
         // Vital to the one group that has all free crossings as breaths, not to the other one.
         EyeBoard one = CHECKS.picture(0, 1, "XXXX", "X..X", ".XX.", "X..X");
-        regionIs(one, 1, 5, 2, 2, 2, 2, 5);
+        CHECKS.regionIs(one, 1, 5, 2, 2, 2, 2, 5);
         EyeBoard split = CHECKS.picture(0, 1, "X..", "OXX", "...");
-        regionIs(split, 1, 1, 2, 2, 2, 1, 1);
-        groupIs(split, 0, 1, 1, 0, 0, 0);
-        groupIs(split, 4, 2, 4, 4, 1, 0);
+        CHECKS.regionIs(split, 1, 1, 2, 2, 2, 1, 1);
+        CHECKS.groupIs(split, 0, 1, 1, 0, 0, 0);
+        CHECKS.groupIs(split, 4, 2, 4, 4, 1, 0);
     }
 
     private static void fewerThanTwo() {
         EyeBoard none = CHECKS.picture(0, 1, "...", ".X.", "...");
-        groupIs(none, 4, 1, 4, 4, 0, 0);
+        CHECKS.groupIs(none, 4, 1, 4, 4, 0, 0);
         EyeBoard one = CHECKS.picture(0, 1, "XXX", "X.X", "XXX");
-        groupIs(one, 0, 8, 1, 0, 1, 0);
+        CHECKS.groupIs(one, 0, 8, 1, 0, 1, 0);
         due("standing(1) with one", one.standing(1), 0);
         EyeBoard two = CHECKS.picture(0, 1, ".XX", "XXX", "XX.");
-        groupIs(two, 1, 7, 2, 1, 2, 1);
+        CHECKS.groupIs(two, 1, 7, 2, 1, 2, 1);
         due("standing(1) with two", two.standing(1), 7);
         EyeBoard three = CHECKS.picture(0, 1, ".X.", "XXX", "XX.");
-        groupIs(three, 1, 6, 3, 1, 3, 1);
+        CHECKS.groupIs(three, 1, 6, 3, 1, 3, 1);
         due("standing(1) with three", three.standing(1), 6);
+        // The first crossing's stone by itself, and as one of a group that has two beside it.
+        EyeBoard corner = CHECKS.picture(0, 1, "X..", "...", "...");
+        CHECKS.groupIs(corner, 0, 1, 2, 0, 0, 0);
+        due("standing(1) of the first crossing's stone", corner.standing(1), 0);
+        EyeBoard held = CHECKS.picture(0, 1, "X.X.X", "XXXXX");
+        CHECKS.groupIs(held, 0, 8, 2, 0, 2, 1);
+        due("standing(1) with the first crossing's stone", held.standing(1), 8);
     }
 
     /** The right one has one vital region: with it goes the region in the middle, so the left one has one, too. */
     private static void regionsLeftOut() {
         EyeBoard x = CHECKS.picture(0, 1, ".X.X.", "XX.XX");
-        groupIs(x, 1, 3, 3, 1, 2, 1);
-        groupIs(x, 3, 3, 3, 3, 2, 1);
+        CHECKS.groupIs(x, 1, 3, 3, 1, 2, 1);
+        CHECKS.groupIs(x, 3, 3, 3, 3, 2, 1);
         due("set(4, 1, 1)", x.set(4, 1, 1), 1);
-        groupIs(x, 1, 3, 3, 1, 2, 0);
-        groupIs(x, 3, 4, 2, 3, 1, 0);
+        CHECKS.groupIs(x, 1, 3, 3, 1, 2, 0);
+        CHECKS.groupIs(x, 3, 4, 2, 3, 1, 0);
         due("standing(1)", x.standing(1), 0);
         // A region that touches no group that is left out stays vital: the left one has two of these.
         EyeBoard y = CHECKS.picture(0, 1, ".X.X.X.", "XXXX.XX");
-        groupIs(y, 1, 6, 4, 1, 3, 1);
+        CHECKS.groupIs(y, 1, 6, 4, 1, 3, 1);
         due("set(6, 1, 1)", y.set(6, 1, 1), 1);
-        groupIs(y, 1, 6, 4, 1, 3, 1);
-        groupIs(y, 5, 4, 2, 5, 1, 0);
+        CHECKS.groupIs(y, 1, 6, 4, 1, 3, 1);
+        CHECKS.groupIs(y, 5, 4, 2, 5, 1, 0);
         due("standing(1) of the left one", y.standing(1), 6);
     }
 
@@ -195,9 +190,9 @@ public final class ShapeEdgesTest {
         due("standing(1) of three groups", x.standing(1), 8);
         due("set(6, 1, 1)", x.set(6, 1, 1), 1);
         // The right one goes first, for that the one in the middle, for that the left one.
-        groupIs(x, 5, 4, 2, 5, 1, 0);
-        groupIs(x, 3, 2, 4, 3, 2, 0);
-        groupIs(x, 1, 3, 3, 1, 2, 0);
+        CHECKS.groupIs(x, 5, 4, 2, 5, 1, 0);
+        CHECKS.groupIs(x, 3, 2, 4, 3, 2, 0);
+        CHECKS.groupIs(x, 1, 3, 3, 1, 2, 0);
         due("standing(1)", x.standing(1), 0);
         EyeBoard other = CHECKS.picture(0, 1, CHAIN);
         due("set(0, 1, 1)", other.set(0, 1, 1), 1);
@@ -206,8 +201,8 @@ public final class ShapeEdgesTest {
 
     private static void whatIsLeftStands() {
         EyeBoard x = CHECKS.picture(0, 1, ".X.XO", "XXXXO", "OOOOO", ".....", "...X.");
-        groupIs(x, 1, 6, 2, 1, 2, 1);
-        groupIs(x, 23, 1, 3, 23, 0, 0);
+        CHECKS.groupIs(x, 1, 6, 2, 1, 2, 1);
+        CHECKS.groupIs(x, 23, 1, 3, 23, 0, 0);
         due("standing(1)", x.standing(1), 6);
         due("standing(2)", x.standing(2), 0);
         EyeBoard white = CHECKS.picture(0, 1, ".O.O.O.", "OO.O.OO");
@@ -221,16 +216,16 @@ public final class ShapeEdgesTest {
     private static void leastAndMostOfGroups() {
         EyeBoard one = free(7, 7);
         due("set(48, 2, 1)", one.set(48, 2, 1), 1);
-        groupIs(one, 48, 1, 2, 48);
+        CHECKS.groupIs(one, 48, 1, 2, 48);
         due("set(0, 2, 1)", one.set(0, 2, 1), 1);
-        groupIs(one, 0, 1, 2, 0);
-        groupIs(one, 48, 1, 2, 48);
+        CHECKS.groupIs(one, 0, 1, 2, 0);
+        CHECKS.groupIs(one, 48, 1, 2, 48);
         EyeBoard most = allButFirst(2);
-        groupIs(most, 48, 48, 1, 1, 1, 0);
-        groupIs(most, 1, 48, 1, 1, 1, 0);
+        CHECKS.groupIs(most, 48, 48, 1, 1, 1, 0);
+        CHECKS.groupIs(most, 1, 48, 1, 1, 1, 0);
         // The least crossing of a group need not be in the column of the one that is asked for.
         EyeBoard hook = CHECKS.picture(0, 1, "...X", ".XXX", "....");
-        groupIs(hook, 5, 4, 6, 3);
+        CHECKS.groupIs(hook, 5, 4, 6, 3);
     }
 
     private static void vitalWithNoneLeftOut() {
@@ -310,12 +305,12 @@ public final class ShapeEdgesTest {
 
     private static void crossingsOfRegions() {
         EyeBoard x = CHECKS.picture(0, 1, ".OX.", "OOX.", "XXX.", "....");
-        regionIs(x, 1, 0, 4, 1);
-        regionIs(x, 1, 4, 4, 1);
-        regionIs(x, 1, 15, 7, 7);
-        regionIs(x, 2, 0, 1, 1);
-        regionIs(x, 2, 2, 12, 7);
-        regionIs(x, 2, 3, 12, 7);
+        CHECKS.regionIs(x, 1, 0, 4, 1);
+        CHECKS.regionIs(x, 1, 4, 4, 1);
+        CHECKS.regionIs(x, 1, 15, 7, 7);
+        CHECKS.regionIs(x, 2, 0, 1, 1);
+        CHECKS.regionIs(x, 2, 2, 12, 7);
+        CHECKS.regionIs(x, 2, 3, 12, 7);
     }
 
     private static void groupsOfRegions() {
@@ -338,16 +333,16 @@ public final class ShapeEdgesTest {
         EyeBoard x = CHECKS.picture(0, 1, CHAIN);
         due("set(6, 1, 1)", x.set(6, 1, 1), 1);
         // The groups beside it are left out, but here none is.
-        regionIs(x, 1, 9, 2, 2, 2, 2, 2);
-        regionIs(x, 1, 4, 2, 2, 2, 2, 4);
-        regionIs(x, 1, 0, 1, 1, 1, 1, 0);
+        CHECKS.regionIs(x, 1, 9, 2, 2, 2, 2, 2);
+        CHECKS.regionIs(x, 1, 4, 2, 2, 2, 2, 4);
+        CHECKS.regionIs(x, 1, 0, 1, 1, 1, 1, 0);
         EyeBoard none = free(2, 2);
-        regionIs(none, 2, 3, 4, 4, 0, 0, 0);
+        CHECKS.regionIs(none, 2, 3, 4, 4, 0, 0, 0);
         // It touches two, and is vital to one of these.
         EyeBoard split = CHECKS.picture(0, 1, "X..", "OXX", "...");
-        regionIs(split, 1, 2, 2, 2, 2, 1, 1);
+        CHECKS.regionIs(split, 1, 2, 2, 2, 2, 1, 1);
         EyeBoard last = CHECKS.picture(0, 1, "XX", "X.");
-        regionIs(last, 1, 3, 1, 1, 1, 1, 3);
+        CHECKS.regionIs(last, 1, 3, 1, 1, 1, 1, 3);
     }
 
     private static void regionRefused() {

@@ -29,18 +29,6 @@ public final class ShapeTest {
         CHECKS.due(call, got, want);
     }
 
-    private static void groupIs(EyeBoard x, int k, int... want) {
-        for (int what = 0; what < want.length; what++) {
-            due("group(" + k + ", " + what + ")", x.group(k, what), want[what]);
-        }
-    }
-
-    private static void regionIs(EyeBoard x, int colour, int k, int... want) {
-        for (int what = 0; what < want.length; what++) {
-            due("region(" + colour + ", " + k + ", " + what + ")", x.region(colour, k, what), want[what]);
-        }
-    }
-
     private static EyeBoard mixed() {
         return CHECKS.picture(0, 1, ".XX.O", "..X.O", "O.X..", "OO...");
     }
@@ -48,10 +36,10 @@ public final class ShapeTest {
     private static void groups() {
         EyeBoard x = mixed();
         for (int k : new int[] {1, 2, 7, 12}) {
-            groupIs(x, k, 4, 7, 1, 0, 0);
+            CHECKS.groupIs(x, k, 4, 7, 1, 0, 0);
         }
-        groupIs(x, 16, 3, 3, 10, 0, 0);
-        groupIs(x, 9, 2, 3, 4, 0, 0);
+        CHECKS.groupIs(x, 16, 3, 3, 10, 0, 0);
+        CHECKS.groupIs(x, 9, 2, 3, 4, 0, 0);
         due("group() is no act", x.count(0), 0);
     }
 
@@ -72,14 +60,15 @@ public final class ShapeTest {
     /** The last crossing of a line and the first of the next one are no neighbours. */
     private static void groupsAtEdges() {
         EyeBoard x = CHECKS.picture(0, 1, "..X", "X..", "..X");
-        groupIs(x, 2, 1, 2, 2);
-        groupIs(x, 3, 1, 3, 3);
-        groupIs(x, 8, 1, 2, 8);
+        CHECKS.groupIs(x, 2, 1, 2, 2);
+        CHECKS.groupIs(x, 3, 1, 3, 3);
+        CHECKS.groupIs(x, 8, 1, 2, 8);
         EyeBoard wide = CHECKS.picture(0, 1, "......X", "X......");
-        groupIs(wide, 6, 1, 2, 6);
-        groupIs(wide, 7, 1, 2, 7);
-        EyeBoard large = CHECKS.picture(0, 1, ".......", ".......", ".......", ".......", ".......", ".....XX", ".....XX");
-        groupIs(large, 48, 4, 4, 40);
+        CHECKS.groupIs(wide, 6, 1, 2, 6);
+        CHECKS.groupIs(wide, 7, 1, 2, 7);
+        EyeBoard large = CHECKS.picture(0, 1,
+            ".......", ".......", ".......", ".......", ".......", ".....XX", ".....XX");
+        CHECKS.groupIs(large, 48, 4, 4, 40);
     }
 
     private static void breathsByNumber() {
@@ -102,37 +91,37 @@ public final class ShapeTest {
 
     private static void vitalRegions() {
         EyeBoard x = CHECKS.picture(0, 1, ".X.X.", "XXXXX", ".....");
-        groupIs(x, 8, 7, 8, 1, 4, 1);
-        regionIs(x, 1, 0, 1, 1, 1, 1, 0);
-        regionIs(x, 1, 4, 1, 1, 1, 1, 4);
-        regionIs(x, 1, 12, 5, 5, 1, 1, 10);
-        regionIs(x, 2, 12, 15, 8, 0, 0, 0);
+        CHECKS.groupIs(x, 8, 7, 8, 1, 4, 1);
+        CHECKS.regionIs(x, 1, 0, 1, 1, 1, 1, 0);
+        CHECKS.regionIs(x, 1, 4, 1, 1, 1, 1, 4);
+        CHECKS.regionIs(x, 1, 12, 5, 5, 1, 1, 10);
+        CHECKS.regionIs(x, 2, 12, 15, 8, 0, 0, 0);
         EyeBoard deep = CHECKS.picture(0, 1, ".X.X.", "XXXXX", ".....", ".....");
-        groupIs(deep, 8, 7, 8, 1, 3, 1);
-        regionIs(deep, 1, 12, 10, 10, 1, 0, 10);
+        CHECKS.groupIs(deep, 8, 7, 8, 1, 3, 1);
+        CHECKS.regionIs(deep, 1, 12, 10, 10, 1, 0, 10);
         EyeBoard held = CHECKS.picture(0, 1, ".X...", "XXXXX", ".O.O.", "OOOOO");
-        groupIs(held, 1, 6, 7, 1, 3, 1);
-        regionIs(held, 1, 16, 10, 3, 1, 1, 10);
-        groupIs(held, 11, 7, 3, 11, 0, 0);
+        CHECKS.groupIs(held, 1, 6, 7, 1, 3, 1);
+        CHECKS.regionIs(held, 1, 16, 10, 3, 1, 1, 10);
+        CHECKS.groupIs(held, 11, 7, 3, 11, 0, 0);
     }
 
     private static void regionsOfBothColours() {
         EyeBoard x = CHECKS.picture(0, 1, SHARED);
-        regionIs(x, 1, 0, 1, 1, 1, 1, 0);
-        regionIs(x, 1, 9, 2, 2, 2, 2, 2);
-        regionIs(x, 1, 13, 5, 1, 1, 1, 4);
-        regionIs(x, 1, 4, 5, 1, 1, 1, 4);
-        regionIs(x, 2, 0, 10, 4, 1, 0, 0);
-        regionIs(x, 2, 11, 10, 4, 1, 0, 0);
+        CHECKS.regionIs(x, 1, 0, 1, 1, 1, 1, 0);
+        CHECKS.regionIs(x, 1, 9, 2, 2, 2, 2, 2);
+        CHECKS.regionIs(x, 1, 13, 5, 1, 1, 1, 4);
+        CHECKS.regionIs(x, 1, 4, 5, 1, 1, 1, 4);
+        CHECKS.regionIs(x, 2, 0, 10, 4, 1, 0, 0);
+        CHECKS.regionIs(x, 2, 11, 10, 4, 1, 0, 0);
         EyeBoard broken = CHECKS.picture(0, 1, BROKEN);
-        regionIs(broken, 1, 13, 5, 2, 1, 0, 4);
-        regionIs(broken, 2, 13, 1, 1, 1, 1, 13);
+        CHECKS.regionIs(broken, 1, 13, 5, 2, 1, 0, 4);
+        CHECKS.regionIs(broken, 2, 13, 1, 1, 1, 1, 13);
         EyeBoard free = new EyeBoard();
-        regionIs(free, 1, 7, 25, 25, 0, 0, 0);
-        regionIs(free, 2, 24, 25, 25, 0, 0, 0);
+        CHECKS.regionIs(free, 1, 7, 25, 25, 0, 0, 0);
+        CHECKS.regionIs(free, 2, 24, 25, 25, 0, 0, 0);
         EyeBoard twice = CHECKS.picture(0, 1, "X.O", "..X");
-        regionIs(twice, 1, 1, 4, 3, 2, 0, 1);
-        regionIs(twice, 2, 0, 5, 3, 1, 0, 0);
+        CHECKS.regionIs(twice, 1, 1, 4, 3, 2, 0, 1);
+        CHECKS.regionIs(twice, 2, 0, 5, 3, 1, 0, 0);
     }
 
     private static void regionRefused() {
@@ -150,8 +139,8 @@ public final class ShapeTest {
 
     private static void allStand() {
         EyeBoard x = CHECKS.picture(0, 1, SHARED);
-        groupIs(x, 1, 3, 3, 1, 2, 1);
-        groupIs(x, 11, 3, 3, 3, 2, 1);
+        CHECKS.groupIs(x, 1, 3, 3, 1, 2, 1);
+        CHECKS.groupIs(x, 11, 3, 3, 3, 2, 1);
         due("standing(1)", x.standing(1), 6);
         due("standing(2)", x.standing(2), 0);
     }
@@ -159,8 +148,8 @@ public final class ShapeTest {
     /** The right group goes first; its shared region goes with it, so that the left one has but one then. */
     private static void leftOutRoundByRound() {
         EyeBoard x = CHECKS.picture(0, 1, BROKEN);
-        groupIs(x, 1, 3, 3, 1, 2, 0);
-        groupIs(x, 11, 3, 3, 3, 1, 0);
+        CHECKS.groupIs(x, 1, 3, 3, 1, 2, 0);
+        CHECKS.groupIs(x, 11, 3, 3, 3, 1, 0);
         due("standing(1)", x.standing(1), 0);
         due("set(13, 2, 1)", x.set(13, 2, 1), 1);
         due("standing(1) then", x.standing(1), 6);
@@ -168,8 +157,8 @@ public final class ShapeTest {
 
     private static void someStand() {
         EyeBoard x = CHECKS.picture(0, 1, ".X.XO", "XXXXO", "OOOOO", ".....", "...X.");
-        groupIs(x, 1, 6, 2, 1, 2, 1);
-        groupIs(x, 23, 1, 3, 23, 0, 0);
+        CHECKS.groupIs(x, 1, 6, 2, 1, 2, 1);
+        CHECKS.groupIs(x, 23, 1, 3, 23, 0, 0);
         due("standing(1)", x.standing(1), 6);
         due("standing(2)", x.standing(2), 0);
         due("lay(15)", x.lay(15), 0);
@@ -187,7 +176,7 @@ public final class ShapeTest {
             due("standing(" + colour + ")", x.standing(colour), EyeBoard.BAD);
         }
         EyeBoard one = CHECKS.picture(0, 1, ".XX", "XXX", "XX.");
-        groupIs(one, 1, 7, 2, 1, 2, 1);
+        CHECKS.groupIs(one, 1, 7, 2, 1, 2, 1);
         due("standing(1) of two free ones", one.standing(1), 7);
         due("set(0, 1, 1)", one.set(0, 1, 1), 1);
         due("standing(1) of one free one", one.standing(1), 0);
